@@ -130,7 +130,7 @@ public final class GlulxFloats {
         FLOAT(23, 8), DOUBLE(52, 11);
 
         private static final int UP = 0, DOWN = 1, NEAREST = 2;
-        /** No finite number of either form is so many doublings or halvings away from another. */
+        /** So many doublings make any number infinite, so many halvings make it 0. */
         private static final long FARTHEST_SCALE = 5000;
 
         private final int fraction;
@@ -304,10 +304,12 @@ public final class GlulxFloats {
             if (isZero(a) || isZero(b)) {
                 return signed;
             }
-            int left = Bits.zeros(plain(a));
-            int right = Bits.zeros(plain(b));
-            long x = plain(a) << left;
-            long y = plain(b) << right;
+            long x = plain(a);
+            long y = plain(b);
+            int left = Bits.zeros(x);
+            int right = Bits.zeros(y);
+            x <<= left;
+            y <<= right;
             long upper = Bits.upperProduct(x, y) | (x * y != 0 ? 1 : 0);
             return rounded(signed != 0, scale(a) - left + scale(b) - right + 64, upper);
         }
@@ -329,13 +331,15 @@ public final class GlulxFloats {
         /** Of finite numbers that are not 0. */
         private long divided(boolean negative, long a, long b) {
             // Both get their leading bit at the same place, so the quotient is never short of bits.
-            int left = Bits.zeros(plain(a)) - (63 - fraction);
-            int right = Bits.zeros(plain(b)) - (63 - fraction);
-            long divisor = plain(b) << right;
+            long rest = plain(a);
+            long divisor = plain(b);
+            int left = Bits.zeros(rest) - (63 - fraction);
+            int right = Bits.zeros(divisor) - (63 - fraction);
+            rest <<= left;
+            divisor <<= right;
             if (divisor == 0) {
                 return nan;
             }
-            long rest = plain(a) << left;
             long digits = rest / divisor;
             rest %= divisor;
             int scale = scale(a) - left - scale(b) + right;
@@ -492,16 +496,19 @@ public final class GlulxFloats {
             if (isInfinite(c)) {
                 return c;
             }
+            // A product too small to keep still has its sign, which a sum with 0 would lose.
             return isZero(c) ? product(a, b) : fusedFinite(a, b, c);
         }
 
         /** Of finite numbers that are not 0: both parts of the sum stand in 128 bits. */
         private long fusedFinite(long a, long b, long c) {
-            int left = Bits.zeros(plain(a));
-            int right = Bits.zeros(plain(b));
+            long x = plain(a);
+            long y = plain(b);
+            int left = Bits.zeros(x);
+            int right = Bits.zeros(y);
             int own = Bits.zeros(plain(c));
-            long x = plain(a) << left;
-            long y = plain(b) << right;
+            x <<= left;
+            y <<= right;
             // Two bits stay free above, so that neither the sum nor its sign overflows.
             long high = Bits.upperProduct(x, y);
             long low = Bits.loweredLow(high, x * y, 2);
@@ -516,7 +523,7 @@ public final class GlulxFloats {
             long otherLow = Bits.loweredLow(other, 0, common - otherScale);
             other = Bits.loweredHigh(other, common - otherScale);
 
-            // Both are turned round where the product is below 0, so only the other's sign counts.
+            // The sum is reckoned as if the product were above 0; its sign comes back at the end.
             boolean negative = isNegative(a) != isNegative(b);
             if (isNegative(c) != negative) {
                 other = Bits.negatedHigh(other, otherLow);
@@ -584,9 +591,6 @@ public final class GlulxFloats {
 
     /** Longs as rows of bits without sign, and pairs of them as rows of 128. */
     private static final class Bits {
-        private Bits() {
-        }
-
         /** How many bits 0 stand above the first 1; m is not 0. */
         static int zeros(long m) {
             int n = 0;

@@ -15,6 +15,9 @@ public final class PrintTest {
             printed((int) CHECK.number(), CHECK.below(41));
             printed((int) CHECK.number() & 0x87FFFFFF | 0x38000000, CHECK.below(41));
         }
+        for (int i = 0; i < 2000; i++) {
+            oneAfterAnother();
+        }
         writtenAnswers();
         refusals();
         CHECK.end();
@@ -37,8 +40,21 @@ public final class PrintTest {
         told(a, places, want(a, places));
     }
 
-    private static void told(int a, int places, String want) {
+    /** Nothing of an earlier number is left in a later one; 6 prints with their bytes stay below 512 calls. */
+    private static void oneAfterAnother() {
         GlulxFloats object = new GlulxFloats();
+        for (int i = 0; i < 6; i++) {
+            int a = CHECK.below(2) == 0 ? (int) CHECK.number() : ActTest.EDGES[CHECK.below(ActTest.EDGES.length)];
+            int places = CHECK.below(2) * CHECK.below(41);
+            told(object, a, places, want(a, places));
+        }
+    }
+
+    private static void told(int a, int places, String want) {
+        told(new GlulxFloats(), a, places, want);
+    }
+
+    private static void told(GlulxFloats object, int a, int places, String want) {
         String call = "print(" + a + ", " + places + ")";
         CHECK.due(call, object.print(a, places), want.length());
         text(call, object, want);

@@ -146,13 +146,13 @@ public final class GlulxFloats {
 
         Form(int fraction, int exponentBits) {
             this.fraction = fraction;
-            this.bias = (1 << exponentBits - 1) - 1;
+            this.bias = (1 << (exponentBits - 1)) - 1;
             this.top = (1 << exponentBits) - 1;
             this.spare = 63 - exponentBits - fraction;
-            this.sign = 1L << exponentBits + fraction;
+            this.sign = 1L << (exponentBits + fraction);
             this.one = (long) this.bias << fraction;
             this.infinity = (long) this.top << fraction;
-            this.nan = this.infinity | 1L << fraction - 1;
+            this.nan = this.infinity | 1L << (fraction - 1);
         }
 
         /** The ACT's numbers are the document's. */
@@ -221,7 +221,7 @@ public final class GlulxFloats {
         }
 
         private long size(long a) {
-            return a & sign - 1;
+            return a & (sign - 1);
         }
 
         private int biased(long a) {
@@ -230,7 +230,7 @@ public final class GlulxFloats {
 
         /** The whole number that a's digits are, with the leading bit that the form leaves out. */
         long plain(long a) {
-            long digits = a & (1L << fraction) - 1;
+            long digits = a & ((1L << fraction) - 1);
             return biased(a) == 0 ? digits : digits | 1L << fraction;
         }
 
@@ -383,7 +383,7 @@ public final class GlulxFloats {
                 return a;
             }
             int shift = Bits.zeros(plain(a));
-            if ((scale(a) - shift & 1) != 0) {
+            if (((scale(a) - shift) & 1) != 0) {
                 shift--;
             }
             long radicand = plain(a) << shift;
@@ -419,7 +419,7 @@ public final class GlulxFloats {
                 boolean grows = way == NEAREST ? size(a) > oneHalf : (way == UP) == (signed == 0);
                 return grows ? signed | one : signed;
             }
-            long unit = 1L << fraction - exponent;
+            long unit = 1L << (fraction - exponent);
             long kept = a & -unit;
             long rest = a - kept;
             if (rest == 0) {
@@ -428,7 +428,7 @@ public final class GlulxFloats {
             // Of sizes from 1 up to 2 the unit's bit is the exponent's lowest, set as the bias is odd.
             boolean odd = (kept & unit) != 0;
             boolean grows = way == NEAREST
-                ? rest > unit >> 1 || rest == unit >> 1 && odd
+                ? rest > (unit >> 1) || rest == (unit >> 1) && odd
                 : (way == UP) == (signed == 0);
             return grows ? kept + unit : kept;
         }
@@ -556,8 +556,8 @@ public final class GlulxFloats {
                 return isNegative(a) ? Integer.MIN_VALUE : Integer.MAX_VALUE;
             }
             long n = exponent < fraction
-                ? plain(a) >>> fraction - exponent
-                : plain(a) << exponent - fraction;
+                ? plain(a) >>> (fraction - exponent)
+                : plain(a) << (exponent - fraction);
             return isNegative(a) ? -n : n;
         }
 
@@ -568,7 +568,7 @@ public final class GlulxFloats {
         private long rounded(boolean negative, int scale, long m) {
             int zeros = Bits.zeros(m);
             // The leading bit goes below the sign, so that plain compares do.
-            long digits = zeros == 0 ? m >>> 1 | m & 1 : m << zeros - 1;
+            long digits = zeros == 0 ? m >>> 1 | m & 1 : m << (zeros - 1);
             int exponent = scale + 63 - zeros + bias;
             long signed = negative ? sign : 0;
             if (exponent >= top) {
@@ -580,7 +580,7 @@ public final class GlulxFloats {
             }
             long kept = digits >>> cutOff;
             long rest = digits - (kept << cutOff);
-            long tie = 1L << cutOff - 1;
+            long tie = 1L << (cutOff - 1);
             if (rest > tie || rest == tie && (kept & 1) != 0) {
                 kept++;
             }
@@ -647,13 +647,13 @@ public final class GlulxFloats {
                 return low;
             }
             if (by < 64) {
-                return high << 64 - by | low >>> by | (low << 64 - by != 0 ? 1 : 0);
+                return high << (64 - by) | low >>> by | (low << (64 - by) != 0 ? 1 : 0);
             }
             if (by == 64) {
                 return high | (low != 0 ? 1 : 0);
             }
             if (by < 128) {
-                return high >>> by - 64 | ((high << 128 - by | low) != 0 ? 1 : 0);
+                return high >>> (by - 64) | ((high << (128 - by) | low) != 0 ? 1 : 0);
             }
             return (high | low) != 0 ? 1 : 0;
         }

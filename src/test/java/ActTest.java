@@ -84,7 +84,7 @@ public final class ActTest {
         CHECK.due(call, CHECK.any().act(act, a, b, c), want(act, a, b, c));
     }
 
-    private static int want(int act, int a, int b, int c) {
+    static int want(int act, int a, int b, int c) {
         switch (act) {
             case 12: return a & 0x7FFFFFFF;
             case 13: return a ^ 0x80000000;

@@ -1,3 +1,6 @@
+import java.util.HashSet;
+import java.util.Set;
+
 /** Counts answers, tells the wrong ones, and hands out what several tests need. */
 final class Check {
     private static final int CALLS_PROMISED = 512;
@@ -6,6 +9,9 @@ final class Check {
     private final String name;
     private long right;
     private long wrong;
+    private String sentence;
+    private long answersBefore;
+    private final Set<String> sentences = new HashSet<>();
     private GlulxFloats object;
     private int calls;
     private long state = 20261116L;
@@ -21,8 +27,23 @@ final class Check {
         }
         wrong++;
         if (wrong <= TOLD) {
-            System.out.println(name + ": " + call + " answered " + got + " (" + Long.toHexString(got)
+            String where = sentence == null ? "" : "[" + sentence + "] ";
+            System.out.println(name + ": " + where + call + " answered " + got + " (" + Long.toHexString(got)
                 + "), due is " + want + " (" + Long.toHexString(want) + ")");
+        }
+    }
+
+    /** The answers from here on are due by this sentence of the document; one without an answer fails. */
+    void sentence(String text) {
+        endSentence();
+        sentence = text;
+        answersBefore = right + wrong;
+        sentences.add(text);
+    }
+
+    private void endSentence() {
+        if (sentence != null && right + wrong == answersBefore) {
+            due("answers asked for", 0, 1);
         }
     }
 
@@ -50,7 +71,9 @@ final class Check {
     }
 
     void end() {
-        System.out.println(name + ": " + right + " answers as due, " + wrong + " not");
+        endSentence();
+        String of = sentences.isEmpty() ? "" : " of " + sentences.size() + " sentences";
+        System.out.println(name + ": " + right + " answers" + of + " as due, " + wrong + " not");
         if (wrong != 0 || right == 0) {
             System.exit(1);
         }

@@ -38,6 +38,23 @@ public final class CompareTest {
     }
 
     private static void floats(int a, int b, int by) {
+        boolean[] wants = wants(a, b, by);
+        for (int test = 0; test < 8; test++) {
+            CHECK.due("test(" + test + ", " + a + ", " + b + ", " + by + ")",
+                CHECK.any().test(test, a, b, by), wants[test] ? 1 : 0);
+        }
+    }
+
+    private static void doubles(long a, long b, long by) {
+        boolean[] wants = wideWants(a, b, by);
+        for (int test = 0; test < 8; test++) {
+            CHECK.due("wideTest(" + test + ", " + a + ", " + b + ", " + by + ")",
+                CHECK.any().wideTest(test, a, b, by), wants[test] ? 1 : 0);
+        }
+    }
+
+    /** Which of the TESTS 0 to 7 hold. */
+    static boolean[] wants(int a, int b, int by) {
         float x = Float.intBitsToFloat(a);
         float y = Float.intBitsToFloat(b);
         float z = Float.intBitsToFloat(by);
@@ -47,14 +64,10 @@ public final class CompareTest {
         } else if (Float.isInfinite(x) && Float.isInfinite(y)) {
             near = a == b;
         }
-        boolean[] wants = {near, !near, x < y, x <= y, x > y, x >= y, x != x, Float.isInfinite(x)};
-        for (int test = 0; test < 8; test++) {
-            CHECK.due("test(" + test + ", " + a + ", " + b + ", " + by + ")",
-                CHECK.any().test(test, a, b, by), wants[test] ? 1 : 0);
-        }
+        return new boolean[] {near, !near, x < y, x <= y, x > y, x >= y, x != x, Float.isInfinite(x)};
     }
 
-    private static void doubles(long a, long b, long by) {
+    static boolean[] wideWants(long a, long b, long by) {
         double x = Double.longBitsToDouble(a);
         double y = Double.longBitsToDouble(b);
         double z = Double.longBitsToDouble(by);
@@ -64,11 +77,7 @@ public final class CompareTest {
         } else if (Double.isInfinite(x) && Double.isInfinite(y)) {
             near = a == b;
         }
-        boolean[] wants = {near, !near, x < y, x <= y, x > y, x >= y, x != x, Double.isInfinite(x)};
-        for (int test = 0; test < 8; test++) {
-            CHECK.due("wideTest(" + test + ", " + a + ", " + b + ", " + by + ")",
-                CHECK.any().wideTest(test, a, b, by), wants[test] ? 1 : 0);
-        }
+        return new boolean[] {near, !near, x < y, x <= y, x > y, x >= y, x != x, Double.isInfinite(x)};
     }
 
     private static void writtenAnswers() {

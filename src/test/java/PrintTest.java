@@ -23,7 +23,7 @@ public final class PrintTest {
         CHECK.end();
     }
 
-    private static String want(int a, int places) {
+    static String want(int a, int places) {
         float value = Float.intBitsToFloat(a);
         if (Float.isNaN(value)) {
             return "nan";

@@ -85,7 +85,7 @@ public final class WideTest {
         CHECK.due(call, CHECK.any().wide(act, a, b, c), want(act, a, b, c));
     }
 
-    private static long want(int act, long a, long b, long c) {
+    static long want(int act, long a, long b, long c) {
         switch (act) {
             case 12: return a & ~SIGN;
             case 13: return a ^ SIGN;

@@ -336,35 +336,41 @@ public final class ActEdgesTest {
     }
 
     private static void lesser(Kind k) {
-        CHECK.sentence("10 the lesser (NaN, if one is NaN; -0 is less than 0)");
+        CHECK.sentence("10 the lesser");
+        due(k, 10, k.one, k.one + 1, k.one);
+        due(k, 10, k.minus(k.one), k.minus(k.one + 1), k.minus(k.one + 1));
+        due(k, 10, k.least, k.sign, k.sign);
+        due(k, 10, k.minus(k.least), k.sign, k.minus(k.least));
+        due(k, 10, k.infinite, k.greatest, k.greatest);
+        due(k, 10, k.minus(k.greatest), k.minus(k.infinite), k.minus(k.infinite));
+        CHECK.sentence("10 (NaN, if one is NaN)");
+        due(k, 10, k.minus(k.infinite), k.minus(k.nan), k.nan);
+        due(k, 10, k.infinite + 1, k.minus(k.infinite), k.nan);
+        due(k, 10, k.sign, k.nan + 1, k.nan);
+        CHECK.sentence("10 (-0 is less than 0)");
         due(k, 10, k.sign, 0, k.sign);
         due(k, 10, 0, k.sign, k.sign);
         due(k, 10, 0, 0, 0);
         due(k, 10, k.sign, k.sign, k.sign);
-        due(k, 10, k.least, k.sign, k.sign);
-        due(k, 10, k.minus(k.least), k.sign, k.minus(k.least));
-        due(k, 10, k.one, k.one + 1, k.one);
-        due(k, 10, k.minus(k.one), k.minus(k.one + 1), k.minus(k.one + 1));
-        due(k, 10, k.infinite, k.greatest, k.greatest);
-        due(k, 10, k.minus(k.greatest), k.minus(k.infinite), k.minus(k.infinite));
-        due(k, 10, k.minus(k.infinite), k.minus(k.nan), k.nan);
-        due(k, 10, k.infinite + 1, k.minus(k.infinite), k.nan);
     }
 
     private static void greater(Kind k) {
-        CHECK.sentence("11 the greater one (NaN, if one is NaN; -0 is less than 0)");
+        CHECK.sentence("11 the greater one");
+        due(k, 11, k.one, k.one + 1, k.one + 1);
+        due(k, 11, k.minus(k.one), k.minus(k.one + 1), k.minus(k.one));
+        due(k, 11, k.minus(k.least), 0, 0);
+        due(k, 11, k.minus(k.least), k.sign, k.sign);
+        due(k, 11, k.infinite, k.greatest, k.infinite);
+        due(k, 11, k.minus(k.greatest), k.minus(k.infinite), k.minus(k.greatest));
+        CHECK.sentence("11 (NaN, if one is NaN)");
+        due(k, 11, k.infinite, k.minus(k.nan), k.nan);
+        due(k, 11, k.infinite + 1, k.infinite, k.nan);
+        due(k, 11, 0, k.nan + 1, k.nan);
+        CHECK.sentence("11 (-0 is less than 0)");
         due(k, 11, k.sign, 0, 0);
         due(k, 11, 0, k.sign, 0);
         due(k, 11, 0, 0, 0);
         due(k, 11, k.sign, k.sign, k.sign);
-        due(k, 11, k.minus(k.least), 0, 0);
-        due(k, 11, k.minus(k.least), k.sign, k.sign);
-        due(k, 11, k.one, k.one + 1, k.one + 1);
-        due(k, 11, k.minus(k.one), k.minus(k.one + 1), k.minus(k.one));
-        due(k, 11, k.infinite, k.greatest, k.infinite);
-        due(k, 11, k.minus(k.greatest), k.minus(k.infinite), k.minus(k.greatest));
-        due(k, 11, k.infinite, k.minus(k.nan), k.nan);
-        due(k, 11, k.infinite + 1, k.infinite, k.nan);
     }
 
     private static void signs(Kind k) {

@@ -131,6 +131,8 @@ public final class PrintEdgesTest {
         // 71362 times the least FLOAT lies just below 10 to the -40, 71363 times just above.
         printed(71362, 40, "0." + FORTY_ZEROS);
         printed(71363, 40, "0." + "0".repeat(39) + "1");
+        // Of all FLOATS this one comes nearest to a carry: behind the 40th digit it has eight nines.
+        printed(0x0CF38BFCL, 40, "0.0000000000000000000000000000003752432814");
         printed(F.two(-40), 40, "0.0000000000009094947017729282379150390625");
         printed(F.two(-41), 40, "0.0000000000004547473508864641189575195312");
     }

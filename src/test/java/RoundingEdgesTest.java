@@ -10,6 +10,7 @@ public final class RoundingEdgesTest {
             quotientsRounded(k);
             rootsRounded(k);
             productsWithSumRounded(k);
+            sumBesideTheTie(k);
             tooLarge(k);
             tooSmall(k);
             roundedOnce(k);
@@ -122,10 +123,13 @@ public final class RoundingEdgesTest {
         due(k, 20, k.one + 3, threeHalves, k.minus(k.least), threeHalves + 4);
         due(k, 20, k.one + 3, threeHalves, 0, threeHalves + 4);
         for (int e = -k.fraction - 2; e >= 1 - k.bias - k.fraction; e--) {
-            due(k, 20, k.one + 3, threeHalves, k.two(e), threeHalves + 5);
-            due(k, 20, k.one + 3, threeHalves, k.minus(k.two(e)), threeHalves + 4);
-            due(k, 20, k.minus(k.one + 1), threeHalves, k.two(e), k.minus(threeHalves + 1));
-            due(k, 20, k.minus(k.one + 1), threeHalves, k.minus(k.two(e)), k.minus(threeHalves + 2));
+            long[] sizes = {k.two(e), k.two(e + 1) - 1};
+            for (long c : sizes) {
+                due(k, 20, k.one + 3, threeHalves, c, threeHalves + 5);
+                due(k, 20, k.one + 3, threeHalves, k.minus(c), threeHalves + 4);
+                due(k, 20, k.minus(k.one + 1), threeHalves, c, k.minus(threeHalves + 1));
+                due(k, 20, k.minus(k.one + 1), threeHalves, k.minus(c), k.minus(threeHalves + 2));
+            }
         }
         // The product of the least ones is far below them, but turns a tie, too.
         long tie = k.two(-k.fraction - 1);
@@ -133,9 +137,50 @@ public final class RoundingEdgesTest {
         due(k, 20, tie, k.one, k.one, k.one);
         due(k, 20, tie, k.one + 1, k.one, k.one + 1);
         due(k, 20, tie, k.one - 1, k.one + 1, k.one + 1);
+        if (k.fraction == 52) {
+            // (1 + x) (1 - x + x x) is 1 + x x x: a tie, and 125 times 2 to the -78 of it.
+            long x = 5L << 26;
+            due(k, 20, k.one + x - 53 * k.normal, k.one - 2 * x + 50, k.one, k.one + 1);
+            due(k, 20, k.one + x - 53 * k.normal, k.minus(k.one - 2 * x + 50), k.minus(k.one), k.minus(k.one + 1));
+        }
         // What is too large as a product alone comes back.
         due(k, 20, k.greatest, k.of(2), k.minus(k.greatest), k.greatest);
         due(k, 20, k.minus(k.greatest), k.of(2), k.greatest, k.minus(k.greatest));
+    }
+
+    /** The product lies so far beside a tie that c does not reach it, and twice c crosses it. */
+    private static void sumBesideTheTie(Kind k) {
+        CHECK.sentence(ROUNDED + " (20, beside a tie)");
+        long a = k.halves(3);
+        long square = k.of(9) - 2 * k.normal;
+        for (int s = 3; s <= (k.fraction - 2) / 2; s++) {
+            long far = 1L << s;
+            int size = 2 * s - 2 * k.fraction;
+            // 2.25, four and a half steps, less about 2 to the size.
+            due(k, 20, a + far + 6, a - far, k.two(size), square + 4);
+            due(k, 20, a + far + 6, a - far, k.two(size + 1), square + 5);
+            due(k, 20, a + far + 6, k.minus(a - far), k.minus(k.two(size)), k.minus(square + 4));
+            due(k, 20, a + far + 6, k.minus(a - far), k.minus(k.two(size + 1)), k.minus(square + 5));
+            // Just what lacks makes it a tie again.
+            due(k, 20, a + far + 6, a - far, lacking(k, far), square + 4);
+            due(k, 20, a + 3 * far + 6, a - 3 * far, lacking(k, 3 * far), square + 4);
+            // 2.25, steps and a half, and about 2 to the size more.
+            long steps = 3 * far / 2 + 1;
+            due(k, 20, a + far + 1, a + far + 1, k.minus(k.two(size)), square + steps + 1);
+            due(k, 20, a + far + 1, a + far + 1, k.minus(k.two(size + 1)), square + steps);
+            due(k, 20, a + far + 1, k.minus(a + far + 1), k.two(size), k.minus(square + steps + 1));
+            due(k, 20, a + far + 1, k.minus(a + far + 1), k.two(size + 1), k.minus(square + steps));
+        }
+        // Less 7, or 9 more, of the last of all the product's bits: nothing smaller reaches the tie.
+        for (int e = 2 - 2 * k.fraction; e >= 1 - k.bias - k.fraction; e--) {
+            due(k, 20, a + 7, a - 1, k.two(e), square + 4);
+            due(k, 20, a + 3, a + 3, k.minus(k.two(e)), square + 5);
+        }
+    }
+
+    /** far times (far + 6), of the last of all the product's bits. */
+    private static long lacking(Kind k, long far) {
+        return k.of(far * (far + 6)) - 2 * k.fraction * k.normal;
     }
 
     private static void tooLarge(Kind k) {

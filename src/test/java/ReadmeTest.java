@@ -89,7 +89,8 @@ public final class ReadmeTest {
         Files.copy(CLASS, place.resolve(CLASS), StandardCopyOption.REPLACE_EXISTING);
         Files.write(place.resolve("Example.java"), program);
         ProcessBuilder builder = new ProcessBuilder("bash", "-e", "-c", String.join("\n", commands));
-        Process process = builder.directory(place.toFile()).redirectErrorStream(true).start();
+        // What the machine itself may say at its start goes to the other stream, and is no answer.
+        Process process = builder.directory(place.toFile()).redirectError(ProcessBuilder.Redirect.INHERIT).start();
         String told = new String(process.getInputStream().readAllBytes());
         same("the example ends well", process.waitFor(), 0);
 

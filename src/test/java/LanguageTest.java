@@ -212,7 +212,8 @@ public final class LanguageTest extends TreePathScanner<Void, Void> {
     public Void visitMethodInvocation(MethodInvocationTree tree, Void none) {
         Element called = trees.getElement(getCurrentPath());
         MethodTree from = method();
-        boolean own = called instanceof ExecutableElement && !called.getEnclosingElement().toString().startsWith("java");
+        boolean own = called instanceof ExecutableElement
+            && !called.getEnclosingElement().toString().startsWith("java");
         if (own && from != null && called.getKind() == ElementKind.METHOD) {
             calls.computeIfAbsent(elementOf(from), key -> new HashSet<>()).add(called);
             holds("rule 12: a constructor calls nothing", !inConstructor(), tree);
